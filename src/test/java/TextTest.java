@@ -11,6 +11,7 @@ public final class TextTest {
         parseTakesTwentyFourWords();
         everyPrefixEndsTooEarly();
         parseKeepsPlaces();
+        newWordsHaveNoPlace();
         parseIsUndoable();
         Check.end("TextTest");
     }
@@ -102,7 +103,10 @@ public final class TextTest {
         error("a,0000;", 2);
         error("a,00000", 6);
         error("a,9999", 2);
-        error("a,99990", 6);
+        for (char digit = '0'; digit <= '9'; digit++) {
+            error("a,9999" + digit, 6);
+            error("a,0100" + digit, 6);
+        }
         error("a,1001", 2);
         error("a,1001z", 2);
         error("a,10000", 6);
@@ -172,6 +176,16 @@ public final class TextTest {
         Check.write(x, "d,5,01;");
         x.parse();
         Check.noPlace("a word that came back", x, 0);
+    }
+
+    private static void newWordsHaveNoPlace() {
+        SpiralWords x = Check.cloudOf("a,5,00;b,5,00;");
+        x.lay(false);
+        Check.same("a question lays both", 2, x.placedOn(60, 40, false));
+        Check.write(x, "c,5,00;d,5,00;");
+        x.parse();
+        Check.noPlace("a new word after a question", x, 0);
+        Check.noPlace("another new word after a question", x, 1);
     }
 
     static int[] placeOf(SpiralWords x, int word) {

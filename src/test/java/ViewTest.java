@@ -69,6 +69,11 @@ public final class ViewTest {
         extents("the boxes stay until the next laying", x, 8 * 16 + 2, 26, 12, 34, 27);
         x.remove(0);
         extents("one word", x, 2, 34, 19, 34, 20);
+        SpiralWords row = Check.cloudOf("abcdefghij,1,00;");
+        row.setCanvas(10, 10);
+        row.setWays(0, 1, 1);
+        row.lay(false);
+        extents("two rows", row, 20, 0, 4, 9, 5);
         SpiralWords whole = Check.cloudOf("abcdefghij,1,00;");
         whole.setCanvas(80, 16);
         whole.setWays(0, 1, 8);
@@ -136,6 +141,14 @@ public final class ViewTest {
         Check.same("group 0", 12, x.spread(0));
         x.setKind(8, 0, 3);
         Check.same("group 3", 0, x.spread(3));
+        x.setKind(6, 0, 2);
+        x.setKind(7, 0, 2);
+        Check.same("words with numbers side by side", 3, x.spread(2));
+        SpiralWords full = Check.letters(24, "00");
+        full.setWays(0, 4, 1);
+        full.lay(false);
+        // The 13th stands around (38, 28), the 21st around (22, 12).
+        Check.same("24 words", 32, full.spread(0));
         SpiralWords left = Check.cloudOf("a,1,02;abcdefghij,1,02;");
         left.setCanvas(30, 30);
         left.lay(false);

@@ -7,6 +7,7 @@ public final class WhatIfTest {
         narrowestKeepsNoPlaces();
         movedByCounts();
         bestStrideFinds();
+        strideFourCanBeTheBest();
         emptyCloudsAnswer();
         wrongCallsAreRefused();
         Check.end("WhatIfTest");
@@ -73,11 +74,15 @@ public final class WhatIfTest {
     }
 
     private static void narrowestKeepsNoPlaces() {
-        SpiralWords x = Check.cloudOf("a,2,00;b,2,00;");
+        SpiralWords x = Check.letters(3, "00");
         x.setWays(0, 1, 5);
-        x.setCanvas(13, 10);
-        x.lay(false);
-        Check.same("both have places", 1, x.value(6));
+        x.setCanvas(15, 10);
+        Check.same("three words", 3, x.lay(false));
+        x.remove(1);
+        Check.place("the first", x, 0, 5, 0, 5, 10, 0);
+        Check.place("the third", x, 1, 0, 0, 5, 10, 0);
+        Check.asks("kept", x, 2, () -> x.placedOn(10, 10, true));
+        Check.asks("not kept", x, 1, () -> x.placedOn(10, 10, false));
         Check.asks("narrowest", x, 15, x::narrowest);
     }
 
@@ -133,6 +138,24 @@ public final class WhatIfTest {
         Check.same("words with the stride 2", 9, placed[2]);
         Check.same("words with the stride 3", 9, placed[3]);
         Check.same("words with the stride 4", 9, placed[4]);
+    }
+
+    private static void strideFourCanBeTheBest() {
+        SpiralWords x = Check.cloudOf("abcdefghij,1,00;bbb,1,01;cc,1,01;");
+        x.setCanvas(79, 10);
+        // The first covers columns 14 to 63. The second fits behind it alone, around column 71, 32 to the right of the
+        // middle. The third fits before it, around columns 5 to 9, of which 64 to the left of 71 is one; where the
+        // second is left out, the third goes behind the first.
+        int[] placed = {1, 2, 2, 3};
+        for (int stride = 1; stride <= 4; stride++) {
+            x.setWays(0, stride, 5);
+            Check.same("lay with the stride " + stride, placed[stride - 1], x.lay(false));
+        }
+        Check.asks("the stride 4", x, 4, x::bestStride);
+        x.setWays(0, 1, 5);
+        Check.asks("the stride 4, whichever is set", x, 4, x::bestStride);
+        x.setCanvas(80, 50);
+        Check.asks("the stride 1 on a wide canvas", x, 1, x::bestStride);
     }
 
     private static void emptyCloudsAnswer() {

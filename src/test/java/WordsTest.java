@@ -71,6 +71,10 @@ public final class WordsTest {
         Check.same("word(1, 0)", 3, x.word(1, 0));
         Check.same("letter(1, 2)", 4, x.letter(1, 2));
         Check.place("the place is back", x, 2, last);
+        SpiralWords full = Check.letters(24, "00");
+        for (int rest = 23; rest >= 0; rest--) {
+            Check.same("remove of one of " + (rest + 1), rest, full.remove(rest / 2));
+        }
     }
 
     private static void wordTells() {
