@@ -4,14 +4,31 @@ final class Check {
     static final Class<IllegalStateException> STATE = IllegalStateException.class;
     static final Class<IndexOutOfBoundsException> INDEX = IndexOutOfBoundsException.class;
 
+    /** Far from every range of the document. */
+    static final int[] FAR = {Integer.MIN_VALUE, Integer.MIN_VALUE + 1, Integer.MAX_VALUE - 1, Integer.MAX_VALUE};
+
     private static int passed;
     private static int failed;
+    private static String sentence = "";
 
     interface Call {
         void run();
     }
 
     private Check() {
+    }
+
+    /** The test of one sentence of the document: each of its complaints names the sentence. */
+    static void sentence(String words, Call test) {
+        sentence = "\"" + words + "\": ";
+        int before = passed + failed;
+        try {
+            test.run();
+        } catch (RuntimeException e) {
+            count(false, "a call threw " + e);
+        }
+        count(passed + failed > before, "it has no check");
+        sentence = "";
     }
 
     static void same(String call, long due, long got) {
@@ -79,12 +96,20 @@ final class Check {
         return cloudOf(text.toString());
     }
 
+    /** Reads a text, sets the canvas and lays the cloud, places kept: a new word of a new group stands in the middle. */
+    static void grow(SpiralWords x, String text, int columns, int rows) {
+        write(x, text);
+        x.parse();
+        x.setCanvas(columns, rows);
+        x.lay(true);
+    }
+
     private static void count(boolean right, String complaint) {
         if (right) {
             passed++;
         } else {
             failed++;
-            System.out.println(complaint);
+            System.out.println(sentence + complaint);
         }
     }
 
