@@ -308,8 +308,12 @@ public final class EdgesOfTextTest {
         Check.sentence("(then nothing changes)", () -> {
             SpiralWords x = Check.cloudOf("ab,9,21;cd,3,12;");
             x.lay(false);
+            x.setCanvas(40, 30);
+            x.lay(false);
+            Check.same("value(7)", 2, x.value(7));
             Check.write(x, "cd,7,03;ab,8,10;ef,1,00");
             Check.asks("parse", x, -33, x::parse);
+            Check.same("value(7)", 2, x.value(7));
             Check.same("the first word's letter", 0, x.letter(0, 0));
             Check.same("the first word's weight", 9, x.word(0, 1));
             Check.same("parse's error again", -33, x.parse());

@@ -81,6 +81,25 @@ public final class EdgesOfViewTest {
             x.lay(true);
             Check.same("a word that was left out", -1, x.wordAt(30, 20));
         });
+        Check.sentence("of several (when a laying is due) the lowest one", () -> {
+            SpiralWords x = Check.letters(6, "20");
+            x.setCanvas(16, 12);
+            x.setWays(0, 1, 2);
+            x.lay(false);
+            x.setWays(3, 4, 8);
+            x.setWeight(5, 1000);
+            x.setKind(0, 1, 3);
+            x.remove(2);
+            int[][] places = new int[5][];
+            for (int word = 0; word < 5; word++) {
+                places[word] = TextTest.placeOf(x, word);
+            }
+            for (int column = 0; column < 16; column++) {
+                for (int row = 0; row < 12; row++) {
+                    Check.same("wordAt(" + column + ", " + row + ")", lowest(places, column, row), x.wordAt(column, row));
+                }
+            }
+        });
         Check.sentence("Returns the number of the word", () -> {
             SpiralWords x = Check.letters(24, "00");
             x.setWays(0, 3, 1);
@@ -93,6 +112,16 @@ public final class EdgesOfViewTest {
             Check.same("a cell of the first, which is removed", -1, x.wordAt(30, 20));
             Check.same("a cell of the second, which is the first now", 0, x.wordAt(33, 20));
         });
+    }
+
+    private static int lowest(int[][] places, int column, int row) {
+        for (int word = 0; word < places.length; word++) {
+            int[] place = places[word];
+            if (column >= place[0] && column < place[0] + place[2] && row >= place[1] && row < place[1] + place[3]) {
+                return word;
+            }
+        }
+        return SpiralWords.NONE;
     }
 
     private static void meetings() {
